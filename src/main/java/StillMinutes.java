@@ -1,5 +1,6 @@
 import java.util.Arrays;
 
+/** Rooms, people whose watches stop all but them, and things on their rounds; DOC.md tells each call. */
 public final class StillMinutes {
     public static final int BAD = -1, STATE = -2, FULL = -3, NONE = -9;
     public static final int NO = -1000000;
@@ -727,28 +728,22 @@ public final class StillMinutes {
                 at++;
             }
             start = at;
-            if (at >= length) {
+            value = 0;
+            while (at < length && isDigit(text[at])) {
+                // This may run over, but the value of a number that is too long is not asked for.
+                value = value * 10 + text[at] - '0';
+                at++;
+            }
+            int digits = at - start;
+            if (digits > 0) {
+                boolean zeroAhead = digits > 1 && text[start] == '0';
+                token = digits > 2 || zeroAhead ? WRONG : NUMBER;
+            } else if (at >= length) {
                 token = END;
-            } else if (isDigit(text[at])) {
-                takeNumber();
             } else {
                 token = isKnown(text[at]) ? text[at] : WRONG;
                 at++;
             }
-        }
-
-        private void takeNumber() {
-            value = 0;
-            while (at < length && isDigit(text[at])) {
-                // The first two digits tell a number that may stand; a third makes it wrong.
-                if (at < start + 2) {
-                    value = value * 10 + text[at] - '0';
-                }
-                at++;
-            }
-            int digits = at - start;
-            boolean zeroAhead = digits > 1 && text[start] == '0';
-            token = digits > 2 || zeroAhead ? WRONG : NUMBER;
         }
 
         private static boolean isDigit(int letter) {

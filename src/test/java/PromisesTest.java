@@ -131,6 +131,29 @@ public final class PromisesTest {
         due(x.trace(), 1);
         due(x.city(), 0);
         due(x.count(3), 0);
+
+        // a text that was refused leaves nothing behind for the next
+        x = new StillMinutes();
+        Check.type(x, "s9;d0 1 0;p0 19;t1 0;x");
+        due(x.city(), -31);
+        x.clear();
+        Check.type(x, "s3;");
+        due(x.city(), 1);
+        int[] few = {2, 0, 3, 0, 0, 0, 0};
+        for (int what = 0; what < few.length; what++) {
+            due(x.count(what), few[what]);
+        }
+
+        // told anew behind a city whose things went on
+        x = Check.told("d0 1 0;p0 20;t2 0 1;");
+        x.second();
+        Check.type(x, "d1 0 0;p1 29;t3 1 1 0;");
+        due(x.city(), 3);
+        due(x.thing(0, 0), 1);
+        due(x.thing(0, 1), 0);
+        due(x.person(0, 0), 1);
+        due(x.person(0, 1), 29);
+        due(x.door(0, 0), 1);
     }
 
     private static void fault(String text, int place) {
@@ -238,6 +261,9 @@ public final class PromisesTest {
         due(x.thing(0, 0), 3);
         due(x.thing(0, 1), NONE);
         due(x.thing(0, 2), 3);
+        x.second();
+        due(x.thing(0, 0), 3);
+        x.undo();
         due(x.thing(2, 0), BAD);
         due(x.thing(-1, 0), BAD);
         due(x.thing(0, 3), BAD);
@@ -265,6 +291,17 @@ public final class PromisesTest {
         due(x.thing(0, 0), 1);
         due(x.thing(0, 1), 0);
         due(x.thing(1, 0), 3);
+        // behind its 512th call an object is free, but this edge can be seen nowhere else
+        Check.seconds(x, 9995);
+        due(x.second(), 9999);
+        due(x.second(), STATE);
+        due(x.now(0), 9999);
+        due(x.now(1), 499);
+        due(x.now(4), 10);
+        due(x.where(0, 1), 2);
+        due(x.press(0), 21);
+        x = Check.told(ROW);
+        Check.seconds(x, 3);
 
         promise(10);
         due(x.press(0), 21);
@@ -337,6 +374,15 @@ public final class PromisesTest {
         due(x.thing(0, 1), 3);
         x.second();
         due(x.thing(0, 1), 0);
+
+        // off its round in room 0, too
+        x = Check.told("d0 1 0;p0 20;t1 1;");
+        x.press(0);
+        due(x.carry(0, 0, 0), 8);
+        due(x.thing(0, 0), 0);
+        due(x.thing(0, 1), NONE);
+        x.second();
+        due(x.thing(0, 0), 0);
 
         // a shut door is no way, the shortest way counts, doors go both ways
         x = Check.told("r4;d0 1 1;d1 2 0;d3 2 0;d0 3 0;d0 2 0;p0 20;t1 1;");
@@ -501,6 +547,9 @@ public final class PromisesTest {
         x = Check.told(chain + "p0 20;p2 20;p4 20;");
         due(x.presses(0, 5, 0, 0), 3);
         due(x.presses(0, 5, 0, 1), 0);
+        StillMinutes five = Check.told("r6;s1;d0 1 0;d1 2 0;d2 3 0;d3 4 0;d4 5 0;t1 0;p4 20;p2 20;p0 20;p3 20;p1 20;");
+        due(five.presses(0, 5, 0, 0), 5);
+        due(five.presses(0, 4, 0, 0), 4);
         // one who pressed this day does no more, not when the day is over either
         Check.seconds(x, 19);
         x.press(2);
@@ -628,6 +677,8 @@ public final class PromisesTest {
         x = Check.told("r4;s2;d0 1 0;d0 1 0;d0 2 0;d2 3 0;d3 1 0;p0 20;t1 0;");
         due(x.guard(0, 1), 1 + 2);
         due(x.guard(0, 0), NONE);
+        x = Check.told("d0 1 0;d0 1 0;d0 1 0;d0 1 0;d0 1 0;d0 1 0;d0 1 0;d0 1 0;p0 20;t1 0;");
+        due(x.guard(0, 1), 255);
         // a shut door is not among them
         x = Check.told("d0 1 1;d0 1 0;p0 20;t1 0;");
         due(x.guard(0, 1), 2);
