@@ -387,6 +387,12 @@ public final class AskingEdgesTest {
             x.second();
             E.due(x.doneBy(), 1);
         });
+        E.test(20, "each for himself: one who gets nowhere has nothing of the one ahead of him", () -> {
+            StillMinutes x = Check.told("r4;s5;d0 1 0;p0 20;p3 20;p0 20;p3 20;t1 0;");
+            x.found(0, 1, 0);
+            E.due(x.doneBy(), 1 + 4);
+            E.due(x.doneBy(), 1 + 4);
+        });
         E.test(20, "it is so by itself: all not PRESSED this DAY, wherever they are", () -> {
             StillMinutes x = Check.told("r3;p0 20;p2 20;t2 0 1;");
             x.found(0, 0, 0);
