@@ -147,8 +147,12 @@ public final class AskingEdgesTest {
             E.due(Check.told("r6;s4;d4 5 0;d3 4 0;d2 3 0;d1 2 0;d0 1 0;p0 20;p5 20;").reach(0), 31);
             E.due(Check.told("r6;s4;d4 5 0;d3 4 0;d2 3 0;d1 2 0;d0 1 0;p0 20;p5 20;").reach(1), 62);
         });
-        E.test(16, "the shortest way counts", () ->
-            E.due(Check.told("r4;s2;d0 1 0;d1 2 0;d2 3 0;d3 0 0;p0 20;").reach(0), 15));
+        E.test(16, "the shortest way counts, in a ring and by a DOOR between two ROOMS that are as near", () -> {
+            E.due(Check.told("r4;s2;d0 1 0;d1 2 0;d2 3 0;d3 0 0;p0 20;").reach(0), 15);
+            E.due(Check.told("r3;s1;d0 1 0;d0 2 0;d1 2 0;p0 20;").reach(0), 7);
+            E.due(Check.told("r3;s1;d0 1 0;d0 2 0;d2 1 0;p0 20;").reach(0), 7);
+            E.due(Check.told("r3;s1;d1 2 0;d1 0 0;d2 0 0;p0 20;").reach(0), 7);
+        });
     }
 
     private static void pressesNumbers() {
