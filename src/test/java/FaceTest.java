@@ -5,7 +5,6 @@ import java.lang.reflect.Modifier;
 import java.nio.file.Files;
 import java.nio.file.Path;
 import java.util.ArrayList;
-import java.util.Arrays;
 import java.util.List;
 import java.util.TreeSet;
 import java.util.regex.Matcher;
@@ -13,18 +12,16 @@ import java.util.regex.Pattern;
 
 /** The public face is the document's and no more, and the file keeps to the rules of LANGUAGE.md that can be seen. */
 public final class FaceTest {
-    private static final String FACE = "back(int) carry(int,int,int) city() clear() count(int) door(int,int) doneBy() "
-        + "forget() found(int,int,int) guard(int,int) keep(int) now(int) odds(int,int,int) person(int,int) press(int) "
-        + "presses(int,int,int,int) rate(int,int) reach(int) second() taking(int,int) thing(int,int) trace() "
-        + "type(int) undo() upon(int,int) walk(int,int) where(int,int) worth(int)";
+    private static final Pattern TOLD_METHOD = Pattern.compile("(?m)^    public (int|long) (\\w+)\\(([^)]*)\\);");
+    private static final Pattern TOLD_CONSTANT = Pattern.compile("\\b([A-Z]+) = (-\\d+)(?=[,;])");
     private static final String FORBIDDEN = "\\b(throw|throws|try|catch|synchronized|assert|import static|HashMap"
         + "|Exception|System\\.out|System\\.nanoTime|Random|Thread)\\b|->|::";
 
     private final List<String> faults = new ArrayList<>();
 
-    public static void main(String[] args) throws IOException {
+    public static void main(String[] args) throws IOException, IllegalAccessException {
         FaceTest test = new FaceTest();
-        test.face();
+        test.face(toldFace(Files.readString(Path.of("../shared/DOC.md"))));
         test.classesInside();
         test.source(Files.readString(Path.of("src/main/java/StillMinutes.java")));
         test.faults.forEach(System.out::println);
@@ -39,7 +36,32 @@ public final class FaceTest {
         }
     }
 
-    private void face() {
+    private static String toldFace(String document) {
+        int from = document.indexOf("public final class StillMinutes {");
+        return document.substring(from, document.indexOf("```", from));
+    }
+
+    private static TreeSet<String> toldMethods(String face) {
+        TreeSet<String> all = new TreeSet<>();
+        Matcher m = TOLD_METHOD.matcher(face);
+        while (m.find()) {
+            String types = m.group(3).replaceAll("int \\w+", "int").replace(" ", "");
+            all.add(m.group(1) + " " + m.group(2) + "(" + types + ")");
+        }
+        return all;
+    }
+
+    private static TreeSet<String> toldConstants(String face) {
+        TreeSet<String> all = new TreeSet<>();
+        Matcher m = TOLD_CONSTANT.matcher(face);
+        while (m.find()) {
+            all.add(m.group(1) + " " + m.group(2));
+        }
+        return all;
+    }
+
+    private void face(String told) throws IllegalAccessException {
+        need(toldMethods(told).size() == 28 && toldConstants(told).size() == 5, "the document's face is not found");
         Class<StillMinutes> type = StillMinutes.class;
         need(Modifier.isPublic(type.getModifiers()) && Modifier.isFinal(type.getModifiers()), "public final class");
         TreeSet<String> methods = new TreeSet<>();
@@ -47,13 +69,11 @@ public final class FaceTest {
         for (Method m : type.getDeclaredMethods()) {
             if (!Modifier.isPrivate(m.getModifiers())) {
                 need(Modifier.isPublic(m.getModifiers()) && !Modifier.isStatic(m.getModifiers()), m + " is visible");
-                Class<?> due = m.getName().equals("trace") ? long.class : int.class;
-                need(m.getReturnType() == due, m + " answers another type");
                 methods.add(signature(m));
                 publicNames.add(m.getName());
             }
         }
-        need(methods.equals(new TreeSet<>(Arrays.asList(FACE.split(" ")))), "the methods are " + methods);
+        need(methods.equals(toldMethods(told)), "the methods are " + methods);
         for (Class<?> inside : withInside()) {
             for (Method m : inside.getDeclaredMethods()) {
                 boolean hidden = inside != type || Modifier.isPrivate(m.getModifiers());
@@ -66,12 +86,10 @@ public final class FaceTest {
             if (!Modifier.isPrivate(f.getModifiers())) {
                 need(f.getType() == int.class && Modifier.isFinal(f.getModifiers())
                     && Modifier.isStatic(f.getModifiers()), f + " is no constant");
-                constants.add(f.getName());
+                constants.add(f.getName() + " " + f.getInt(null));
             }
         }
-        need(constants.equals(new TreeSet<>(List.of("BAD", "STATE", "FULL", "NONE", "NO"))), "constants " + constants);
-        need(StillMinutes.BAD == -1 && StillMinutes.STATE == -2 && StillMinutes.FULL == -3 && StillMinutes.NONE == -9
-            && StillMinutes.NO == -1000000, "the constants' values");
+        need(constants.equals(toldConstants(told)), "the constants are " + constants);
         need(type.getDeclaredConstructors().length == 1 && type.getConstructors().length == 1, "one constructor");
     }
 
@@ -80,7 +98,7 @@ public final class FaceTest {
         for (Class<?> c : m.getParameterTypes()) {
             types.add(c.getName());
         }
-        return m.getName() + "(" + String.join(",", types) + ")";
+        return m.getReturnType() + " " + m.getName() + "(" + String.join(",", types) + ")";
     }
 
     private static List<Class<?>> withInside() {
