@@ -9,7 +9,7 @@ import java.util.Random;
 import java.util.Set;
 
 /**
- * What is asked (promises 14 to 24) is what comes when it is really done: each answer is held against second(),
+ * What is asked (promises 14 to 24 but for 19) is what comes when it is really done: each answer is held against second(),
  * press(), carry() and walk() on new objects that came to the same moment, so no second reading of the document is
  * needed for it. The seeds are fixed, so each run is the same.
  */
